@@ -1079,12 +1079,14 @@ public final class FewRectangles {
             this.tape = tape;
         }
 
+        /** The code, or null where the tape has a fault. */
         int[] read() {
             size = 0;
             tape.rewind();
             readLevel(EITHER, 0);
             tape.needSign(Tape.END);
-            return size >= 0 && size <= code.length ? Arrays.copyOf(code, size) : code;
+            boolean isRead = tape.fault == NONE && size >= 0 && size <= code.length;
+            return isRead ? Arrays.copyOf(code, size) : null;
         }
 
         /** The levels stand from what binds loosest to what binds tightest; each is made of the next. */
@@ -1351,13 +1353,15 @@ public final class FewRectangles {
             this.tape = tape;
         }
 
+        /** The code, or null where the tape has a fault. */
         int[] read() {
             lineCount = 0;
             tape.rewind();
             readLines(0);
             tape.needSign(Tape.END);
             int size = lineCount * WIDTH;
-            return size >= 0 && size <= code.length ? Arrays.copyOf(code, size) : code;
+            boolean isRead = tape.fault == NONE && size >= 0 && size <= code.length;
+            return isRead ? Arrays.copyOf(code, size) : null;
         }
 
         private void readLines(int open) {
@@ -1714,9 +1718,7 @@ public final class FewRectangles {
         void copyLayer(Sheet sheet, int property) {
             high = sheet.high;
             wide = sheet.wide;
-            for (int place = 0; place < CELLS; place++) {
-                poke(layer, place, peek(sheet.cellFormats, property * CELLS + place));
-            }
+            if (isProperty(property)) System.arraycopy(sheet.cellFormats, property * CELLS, layer, 0, CELLS);
         }
 
         void stroke(int v, int top, int left, int bottom, int right) {
