@@ -1687,15 +1687,15 @@ public final class FewRectangles {
             }
         }
 
+        /** The rectangles come by rising numbers, so that the first of like ones is the one to be told. */
         private void findGreatestFrom(int top, int left) {
             int width = SIDE;
             for (int bottom = top; bottom < high && width > 0; bottom++) {
                 width = Math.min(width, peek(runs, placeOf(bottom, left)));
                 int cells = width * (bottom - top + 1);
-                int rect = rectCode(top, left, bottom, left + width - 1);
-                if (cells > greatestCells || cells > 0 && cells == greatestCells && rect < greatestRect) {
+                if (cells > greatestCells) {
                     greatestCells = cells;
-                    greatestRect = rect;
+                    greatestRect = rectCode(top, left, bottom, left + width - 1);
                 }
             }
         }

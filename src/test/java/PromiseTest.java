@@ -480,7 +480,20 @@ final class PromiseTest {
         holds(0, "-(-" + most + "-1)>0", 0, 0);
         holds(1, "-4096*4096*128<0", 0, 0);
         holds(0, "0-4096*4096*128<0", 0, 0);
+        edgesOfSheet();
         faults();
+    }
+
+    private void edgesOfSheet() {
+        on("promise 12, beside and over the edges of the greatest sheet");
+        due(16, "insert", 0, 8, 8);
+        due(16, "insert", 1, 8, 8);
+        due(1, "value", 15, 5);
+        due(1, "value", 1515, 6);
+        holds(1, "left = 0 and above = 0", 1515, 100);
+        holds(1, "left = 0 and above = 0", 1515, 0);
+        holds(1, "above = 5", 1515, 115);
+        holds(1, "sum = 11 and most = 6 and row * column = 225", 1515, 1515);
     }
 
     private void faults() {
@@ -719,7 +732,13 @@ final class PromiseTest {
         due(3, "undo");
         due(BAD, "before", 4, 0, 0);
         due(4, "before", 3, 0, 0);
-        bad("before", 0, a(0, 0, 0), -1, 4, LEAST, MOST);
+        rule(2, "sum = 5 and most = 5 and least = 5 and like = 1", 0, 0, 7, 0);
+        due(7, "shown", 0, 0);
+        due(1, "value", 0, 6);
+        due(3, "shown", 0, 0);
+        due(7, "before", 4, 0, 0);
+        due(3, "before", 5, 0, 0);
+        bad("before", 0, a(0, 0, 0), -1, 6, LEAST, MOST);
         bad("before", 1, a(0, 0, 0), -1, 16, 1600, LEAST, MOST);
         bad("before", 2, a(0, 0, 0), -1, 4, LEAST, MOST);
     }
