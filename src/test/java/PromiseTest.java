@@ -1,12 +1,8 @@
 /** Promise by promise: ordinary calls, the edges that the document names, and wrong arguments. */
-final class PromiseTest {
-    private static final int NONE = FewRectangles.NONE, BAD = FewRectangles.BAD, STATE = FewRectangles.STATE;
-    private static final int FULL = FewRectangles.FULL, MIXED = FewRectangles.MIXED, VOID = FewRectangles.VOID;
-    private static final int LEAST = Integer.MIN_VALUE, MOST = Integer.MAX_VALUE;
-
-    private final Check check = new Check("PromiseTest");
-    private FewRectangles x;
-    private String promise;
+final class PromiseTest extends Script {
+    private PromiseTest() {
+        super("PromiseTest");
+    }
 
     public static void main(String[] args) {
         PromiseTest t = new PromiseTest();
@@ -24,58 +20,6 @@ final class PromiseTest {
         t.programs();
         t.image();
         t.check.end();
-    }
-
-    private void on(String name) {
-        x = new FewRectangles();
-        promise = name;
-    }
-
-    private void due(int want, String name, int... a) {
-        check.due(promise + ": " + Face.told(name, a), Face.call(x, name, a), want);
-    }
-
-    private void feed(String text) {
-        if (!text.isEmpty()) Face.feed(x, text);
-    }
-
-    private void rule(int want, String condition, int rank, int rect, int pv, int stops) {
-        feed(condition);
-        due(want, "rule", rank, rect, pv, stops);
-    }
-
-    private void text(int want, String program) {
-        feed(program);
-        due(want, "text");
-    }
-
-    private void values(int row, int... values) {
-        for (int c = 0; c < values.length; c++) due(1, "value", 100 * row + c, values[c]);
-    }
-
-    private void shows(int property, int row, int... numbers) {
-        for (int c = 0; c < numbers.length; c++) due(numbers[c], "shown", 100 * row + c, property);
-    }
-
-    private void own(int property, int row, int... numbers) {
-        for (int c = 0; c < numbers.length; c++) due(numbers[c], "under", 100 * row + c, property, 1);
-    }
-
-    private void paintRow(int property, int row, int... numbers) {
-        for (int c = 0; c < numbers.length; c++) due(1, "paint", property, numbers[c], 1000000 * row + 10000 * c + 100 * row + c);
-    }
-
-    /** Wrong numbers for one argument of a call that is good otherwise. */
-    private void bad(String name, int place, int[] good, int... wrong) {
-        for (int v : wrong) {
-            int[] a = good.clone();
-            a[place] = v;
-            due(BAD, name, a);
-        }
-    }
-
-    private static int[] a(int... a) {
-        return a;
     }
 
     // ---- 1
@@ -423,18 +367,6 @@ final class PromiseTest {
         due(1, "ruleOf", 0, 2);
     }
 
-    /** Whether the condition holds at the cell of a sheet with the values of conditions(). */
-    private void holds(int want, String condition, int rect, int cell) {
-        rule(1, condition, 0, rect, 0, 0);
-        check.due(promise + ": " + condition, x.holds(0, cell), want);
-        due(0, "drop", 0);
-    }
-
-    private void fault(int place, String condition) {
-        feed(condition);
-        check.due(promise + ": fault of '" + condition + "'", x.rule(0, 0, 0, 0), -100 - place);
-    }
-
     private void conditions() {
         on("promise 12, conditions worked out");
         values(0, 4, 4, 7);
@@ -544,16 +476,12 @@ final class PromiseTest {
 
     // ---- 15, 16
 
-    private void five(int shelf, int i, int... five) {
-        for (int k = 0; k < five.length; k++) due(1, "put", shelf, i + k, five[k]);
-    }
-
     private void pasteAndRun() {
         on("promise 15, paste");
         due(-11, "paste", 0, 0, 1, 0, 0);
         due(1, "row", 0, 60);
-        five(0, 0, 0, 0, 1, 2, 4);
-        five(0, 5, 1, 1, 1, 3, 5);
+        puts(0, 0, 0, 0, 1, 2, 4);
+        puts(0, 5, 1, 1, 1, 3, 5);
         due(2, "paste", 0, 0, 2, 1, 203);
         own(1, 2, -1, -1, -1, 4, 4, 4, -1);
         own(1, 3, -1, -1, -1, 4, 5, 5, 5);
@@ -576,15 +504,15 @@ final class PromiseTest {
         bad("paste", 4, a(0, 0, 1, 0, 0), -1, 8, 800, LEAST, MOST);
         due(BAD, "paste", 1, 0, 13, 0, 0);
         due(-11, "paste", 1, -1, 1, 0, 0);
-        five(0, 5, 1, 1, 1, 3, 10);
+        puts(0, 5, 1, 1, 1, 3, 10);
         due(BAD, "paste", 0, 0, 2, 3, 0);
-        five(0, 5, 1, 1, 1, 3, -1);
+        puts(0, 5, 1, 1, 1, 3, -1);
         due(BAD, "paste", 0, 0, 2, 3, 0);
-        five(0, 5, 1, 1, 0, 3, 1);
+        puts(0, 5, 1, 1, 0, 3, 1);
         due(BAD, "paste", 0, 0, 2, 3, 0);
-        five(0, 5, 1, 3, 1, 2, 1);
+        puts(0, 5, 1, 3, 1, 2, 1);
         due(BAD, "paste", 0, 0, 2, 3, 0);
-        five(0, 5, -1, 0, 0, 0, 6);
+        puts(0, 5, -1, 0, 0, 0, 6);
         due(BAD, "paste", 0, 0, 2, 3, 0);
         due(0, "rects", 3);
         due(2, "paste", 0, 0, 2, 3, 100);
@@ -703,7 +631,7 @@ final class PromiseTest {
 
         on("promise 17, it goes by what was told then");
         due(1, "row", 0, 5);
-        five(0, 0, 0, 0, 0, 0, 8);
+        puts(0, 0, 0, 0, 0, 0, 8);
         due(1, "paste", 0, 0, 1, 0, 0);
         due(1, "put", 0, 4, 9);
         feed("1=1");
@@ -1033,10 +961,8 @@ final class PromiseTest {
             "9 repeat 3 paint face 1 a0;", "7 repeat {};", "11 repeat 2 {};", "10 repeat 2 {", "0 }", "0 ;", "0 Paint",
             "10 tidy face;$", "10 tidy face;value", "7 repeat 100 {}", "10 repeat 1 {a{}}", "11 paint face -1 a0;"};
         for (String fault : faults) {
-            int blank = fault.indexOf(' '), place = Integer.parseInt(fault.substring(0, blank));
-            feed(fault.substring(blank + 1));
-            check.due(promise + ": fault of '" + fault.substring(blank + 1) + "'", x.text(), -100 - place);
-            due(0, "count", 6);
+            int blank = fault.indexOf(' ');
+            programFault(Integer.parseInt(fault.substring(0, blank)), fault.substring(blank + 1));
         }
         text(-100 - 44, "repeat 1{repeat 1{repeat 1{repeat 1{repeat 1{}}}}}");
         on("promise 45, room for four");
