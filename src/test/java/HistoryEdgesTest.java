@@ -336,6 +336,12 @@ final class HistoryEdgesTest extends Script {
     }
 
     private void beforeOfLatest30() {
+        on("promise 19: SHOWN: by a RULE at the CELLs of its RECT alone");
+        rule(1, "1=1", 0, 2030405, 7, 0);
+        for (int cell : a(203, 205, 403, 405, 304)) due(7, "before", 1, cell, 0);
+        for (int cell : a(103, 104, 202, 206, 302, 306, 402, 406, 503, 505, 0, 707)) due(0, "before", 1, cell, 0);
+        due(0, "before", 0, 304, 0);
+
         on("promise 19: of those REQUESTS that may be UNDONE");
         for (int k = 1; k <= 34; k++) due(1, "ground", 0, k % 10);
         for (int k = 0; k <= 30; k++) due((k + 4) % 10, "before", k, 707, 0);

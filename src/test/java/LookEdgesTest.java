@@ -16,6 +16,7 @@ final class LookEdgesTest extends Script {
         t.drawnInSteps();
         t.alike();
         t.looksAndStripes();
+        t.allLooks();
         t.greatest();
         t.strokes();
         t.rowsOnShelves();
@@ -24,16 +25,6 @@ final class LookEdgesTest extends Script {
         t.pasteRefusals();
         t.pastes();
         t.check.end();
-    }
-
-    private void leave(int high, int wide) {
-        if (high < 8) due(high, "remove", 0, 100 * high + 7);
-        if (wide < 8) due(wide, "remove", 1, 100 * wide + 7);
-    }
-
-    private void growToMost() {
-        due(16, "insert", 0, 8, 8);
-        due(16, "insert", 1, 8, 8);
     }
 
     // ---- promises 20 to 23
@@ -60,7 +51,7 @@ final class LookEdgesTest extends Script {
         due(1, "value", 0, -2);
         due(BAD, "valueAt", 0);
         for (int cell : a(-1, 8, 99, 708, 800, LEAST, MOST)) due(VOID, "valueAt", cell);
-        leave(1, 1);
+        sized(1, 1);
         due(VOID, "valueAt", 1);
         due(VOID, "valueAt", 100);
     }
@@ -84,7 +75,7 @@ final class LookEdgesTest extends Script {
         due(NONE, "rect", 1, 0, 0);
 
         on("promises 27 to 29: as many RECTS as CELLs");
-        growToMost();
+        sized(16, 16);
         for (int k = 0; k < 4; k++) due(1, "paint", 0, k, 1000100 * (k / 2) + 10001 * (k % 2));
         due(1, "copy", 101, 1515, 0);
         due(256, "rects", 0);
@@ -144,9 +135,7 @@ final class LookEdgesTest extends Script {
         int[][] sizes = {{1, 1}, {3, 8}, {8, 8}, {16, 16}, {2, 16}};
         for (int[] size : sizes) {
             on("promise 31: DRAWN on " + size[0] + " by " + size[1]);
-            leave(size[0], size[1]);
-            if (size[0] > 8) due(size[0], "insert", 0, 8, size[0] - 8);
-            if (size[1] > 8) due(size[1], "insert", 1, 8, size[1] - 8);
+            sized(size[0], size[1]);
             due(1, "paint", 3, 4, 0);
             for (int seed : a(0, 1, 5, -1, -7, 12345, LEAST, MOST, 1 << 30)) {
                 for (int n : a(1, 2, 7, 30)) {
@@ -250,6 +239,9 @@ final class LookEdgesTest extends Script {
         due(1, "alike", 1);
         due(1, "paint", 1, NONE, 10001);
         due(63, "alike", 1);
+        due(1, "paint", 2, 7, 5020502);
+        due(1, "alike", 502);
+        due(62, "alike", 501);
     }
 
     private void looksAndStripes() {
@@ -270,6 +262,12 @@ final class LookEdgesTest extends Script {
         due(2, "looks");
         due(1, "alike", 0);
         due(2, "stripes", 0);
+        for (int p = 0; p < 4; p++) due(1, "paint", p, 9, 7070707);
+        due(2, "looks");
+        due(2, "alike", 0);
+        due(2, "alike", 707);
+        due(62, "alike", 706);
+        due(62, "alike", 600);
 
         on("promise 37: STRIPES: 1 at least, as many as CELLs at most; like ones apart are two");
         due(1, "stripes", 0);
@@ -284,8 +282,42 @@ final class LookEdgesTest extends Script {
         due(1, "stripes", 0);
         due(1, "paint", 3, 1, 70007);
         due(2, "stripes", 0);
-        leave(8, 1);
+        sized(8, 1);
         due(1, "stripes", 0);
+    }
+
+    /** Each look that a CELL can have, in two rows: the rows tell two of its numbers, the columns the others. */
+    private void allLooks() {
+        for (int row = 0; row < 100; row += 8) {
+            for (int column = 0; column < 100; column += 16) {
+                on("promise 36: looks from " + row + " and " + column + " on");
+                sized(16, 16);
+                for (int k = 0; k < 16; k++) {
+                    int ahead = (row + k / 2) % 100, behind = (column + k) % 100;
+                    due(1, "lines", 0, 0, ahead / 10, 101 * k);
+                    due(1, "lines", 0, 1, ahead % 10, 101 * k);
+                    due(1, "lines", 1, 2, behind / 10, 101 * k);
+                    due(1, "lines", 1, 3, behind % 10, 101 * k);
+                }
+                due(128, "looks");
+                due(2, "alike", 0);
+                due(2, "alike", 1515);
+                due(16, "stripes", 15);
+            }
+        }
+        on("ALIKE: numbers that differ in two PROPERTIES");
+        for (int p = 0; p < 4; p++) {
+            due(1, "paint", p, 1, 1000100 * p);
+            due(1, "paint", (p + 1) % 4, 9, 1000100 * p + 10001);
+            due(1, "paint", p, 9, 1000100 * p + 20002);
+        }
+        for (int p = 0; p < 4; p++) {
+            due(1, "alike", 100 * p);
+            due(2, "alike", 100 * p + 1);
+            due(2, "alike", 100 * p + 2);
+        }
+        due(52, "alike", 707);
+        due(9, "looks");
     }
 
     private void greatest() {
@@ -359,7 +391,7 @@ final class LookEdgesTest extends Script {
         due(1, "strokes", 5, 0);
 
         on("promise 38: the longest row");
-        growToMost();
+        sized(16, 16);
         paintRow(0, 0, 0, 1, 2, 3, 4, 5, 6, 7, 8, 9, 0, 1, 2, 3, 4, 5);
         due(15, "strokes", 0, 0);
         paintRow(0, 1, 0, 1, 2, 3, 4, 5, 6, 7, 7, 6, 5, 4, 3, 2, 1, 0);
@@ -509,7 +541,7 @@ final class LookEdgesTest extends Script {
 
     private void clipsOfMany() {
         on("a CLIP: at most twelve have room in a ROW");
-        growToMost();
+        sized(16, 16);
         for (int k = 0; k < 4; k++) due(1, "paint", 0, 6 + k, 1000100 * (k / 2) + 10001 * (k % 2));
         due(1, "copy", 101, 1515, 0);
         due(1, "row", 0, 60);
@@ -593,6 +625,12 @@ final class LookEdgesTest extends Script {
         due(BAD, "paste", 0, 0, 1, 0, 0);
         puts(0, 0, 0, 100, 0, 100, 1);
         due(BAD, "paste", 0, 0, 1, 0, 0);
+        int[][] carried = {{4294, 96, 72, 96}, {0, 0, 1, -93}, {1, -100, 0, 0}, {0, 0, -1, 100}, {-1, 100, 0, 0}, {-1, 99, 100, 0},
+            {0, -1, 100, 0}, {4294, 97, -27, -4}, {-4295, 3, 27, 4}};
+        for (int[] five : carried) {
+            puts(0, 0, five);
+            due(BAD, "paste", 0, 0, 1, 0, 0);
+        }
         puts(0, 0, -1, -1, 0, 0, 1);
         due(BAD, "paste", 0, 0, 1, 0, 7);
         due(BAD, "paste", 0, 0, 1, 0, 700);

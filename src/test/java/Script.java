@@ -33,6 +33,15 @@ abstract class Script {
         if (calls > MOST_CALLS) throw new IllegalStateException(promise + ": too many calls on one object");
     }
 
+    /** Makes a new object's sheet as high and as wide as told, at its end. */
+    final void sized(int high, int wide) {
+        int[] size = {high, wide};
+        for (int way = 0; way < 2; way++) {
+            if (size[way] > 8) due(size[way], "insert", way, 8, size[way] - 8);
+            if (size[way] < 8) due(size[way], "remove", way, 100 * size[way] + 7);
+        }
+    }
+
     final void feed(String text) {
         if (text.isEmpty()) return;
         Face.feed(x, text);

@@ -22,18 +22,8 @@ final class SheetEdgesTest extends Script {
         t.tidies();
         t.sorts();
         t.moves();
+        t.corners();
         t.check.end();
-    }
-
-    /** One row and one column are left. */
-    private void leaveOneCell() {
-        due(1, "remove", 0, 6);
-        due(1, "remove", 1, 107);
-    }
-
-    private void growToMost() {
-        due(16, "insert", 0, 8, 8);
-        due(16, "insert", 1, 8, 8);
     }
 
     // ---- Terms 1
@@ -47,7 +37,7 @@ final class SheetEdgesTest extends Script {
         due(VOID, "valueAt", 807);
 
         on("HIGH rows, WIDE columns: 1 each at least");
-        leaveOneCell();
+        sized(1, 1);
         due(1, "count", 0);
         due(1, "count", 1);
         due(STATE, "remove", 0, 0);
@@ -73,7 +63,7 @@ final class SheetEdgesTest extends Script {
         due(5, "shown", 0, 0);
 
         on("HIGH rows, WIDE columns: 16 each at most");
-        growToMost();
+        sized(16, 16);
         due(FULL, "insert", 0, 16, 1);
         due(FULL, "insert", 1, 0, 1);
         due(1, "value", 1515, 3);
@@ -265,7 +255,7 @@ final class SheetEdgesTest extends Script {
         due(2, "lies", 505, 0);
 
         on("RECTS at the edges of the greatest sheet");
-        growToMost();
+        sized(16, 16);
         due(1, "paint", 0, 1, 1515);
         cover(0, 1515);
         due(1, "paint", 0, NONE, 15151515);
@@ -348,6 +338,25 @@ final class SheetEdgesTest extends Script {
         due(10, "insert", 0, 8, 2);
         due(9, "insert", 1, 8, 1);
         cover(0, 707);
+
+        int[][] sizes = {{3, 11}, {11, 3}, {1, 16}, {16, 1}, {15, 15}};
+        for (int[] size : sizes) {
+            for (int way = 0; way < 2; way++) {
+                if (size[way] == 1 || size[way] == 16) continue;
+                on("INSERT on " + size[0] + " by " + size[1] + ": in the same column, row, up to the last one; way " + way);
+                sized(size[0], size[1]);
+                due(1, "paint", 2, 6, 100 * (size[0] - 1) + size[1] - 1);
+                due(size[way] + 1, "insert", way, 1, 1);
+                cover(2, 100 * (size[0] - way) + size[1] - 1 + way);
+            }
+        }
+
+        on("INSERT of rows: the last column's neighbour is not the next row's first");
+        sized(8, 16);
+        due(1, "paint", 2, 6, 3000400);
+        due(1, "paint", 2, 5, 2150315);
+        due(11, "insert", 0, 3, 3);
+        cover(2, 2150615, 6000700);
 
         on("INSERT: new CELLs: VALUE 0");
         values(2, 5, 6);
@@ -514,7 +523,7 @@ final class SheetEdgesTest extends Script {
         due(NONE, "under", 707, 0, 2);
 
         on("COPY of a CELL to all, and of all to a CELL");
-        growToMost();
+        sized(16, 16);
         due(1, "paint", 2, 8, 15151515);
         due(1, "copy", 15151515, 1515, 1);
         due(8, "all", 2, 1515);
@@ -542,7 +551,7 @@ final class SheetEdgesTest extends Script {
         due(0, "tidy", 0);
 
         on("TIDY of all CELLs");
-        growToMost();
+        sized(16, 16);
         due(1, "ground", 1, 4);
         due(1, "paint", 1, 4, 1515);
         due(256, "needless", 1);
@@ -625,6 +634,48 @@ final class SheetEdgesTest extends Script {
             due(0, "ruleOf", 0, 0);
             due(9, "shown", 0, 3);
         }
+    }
+
+    /** Nothing runs over from the last column into the next row, nor from the last row into the next PROPERTY. */
+    private void corners() {
+        for (int way = 0; way < 2; way++) {
+            on("MOVE on the greatest sheet: all comes along, up to the last CELL; way " + way);
+            sized(16, 16);
+            int second = way == 0 ? 100 : 1;
+            for (int p = 0; p < 4; p++) {
+                due(1, "paint", p, p, 0);
+                due(1, "paint", p, p + 2, way == 0 ? 1000100 : 10001);
+                due(1, "paint", p, p + 5, 15151515);
+            }
+            due(1, "move", way, 0, 1);
+            for (int p = 0; p < 4; p++) corners(p, p + 2, second, p);
+            due(1, "move", way, 101, 0);
+            for (int p = 0; p < 4; p++) corners(p, p, second, p + 2);
+            due(1, "move", way, 1, 14);
+            due(1, "move", way, 1415, 0);
+            for (int p = 0; p < 4; p++) corners(p, p, second, p + 2);
+        }
+
+        on("SORT on the greatest sheet: all comes along, up to the last CELL");
+        sized(16, 16);
+        for (int p = 0; p < 4; p++) {
+            due(1, "paint", p, p, 0);
+            due(1, "paint", p, p + 2, 1000100);
+            due(1, "paint", p, p + 5, 15151515);
+        }
+        due(1, "value", 1515, 1);
+        due(1, "value", 115, -1);
+        due(1, "sort", 15, 15, 0);
+        for (int p = 0; p < 4; p++) corners(p, p + 2, 100, p);
+        due(1, "valueAt", 1515);
+        due(-1, "valueAt", 15);
+    }
+
+    private void corners(int p, int first, int second, int secondIs) {
+        due(first, "under", 0, p, 1);
+        due(secondIs, "under", second, p, 1);
+        due(p + 5, "under", 1515, p, 1);
+        cover(p, 0, second == 1 ? 10001 : 1000100, 15151515);
     }
 
     private void lines(int way, int... values) {

@@ -351,6 +351,15 @@ final class TapeEdgesTest extends Script {
         holds(1, "like=1 and greater=0", 3, 2);
         holds(1, "like=1 and greater=3", 3, 3);
         holds(1, "like=60 and greater=3", 707, 707);
+        holds(1, "greater=3", 3, 3);
+        holds(0, "greater=2", 3, 3);
+        holds(0, "greater>3", 3, 3);
+        holds(1, "like=2", 3, 1);
+        holds(0, "like=1", 3, 1);
+        holds(1, "like=like", 3, 1);
+        holds(0, "like<like", 3, 1);
+        holds(0, "greater>like", 3, 2);
+        holds(1, "greater*like-like=2", 3, 3);
 
         on("row, column: of the CELL on THE SHEET");
         holds(1, "row=0 and column=0", 0, 0);
@@ -396,6 +405,16 @@ final class TapeEdgesTest extends Script {
         holds(0, "8192*8192*8192*8192*8192*8192=0", 0, 0);
         holds(1, "0*8192*8192*8192=0", 0, 0);
         holds(0, "(0-" + GREATEST + "-1)*(-1)<0", 0, 0);
+
+        on("what isn't an int, at each CELL of the greatest sheet: the other RULES go on");
+        due(16, "insert", 0, 0, 8);
+        due(16, "insert", 1, 0, 8);
+        for (int k = 0; k < 5; k++) rule(k + 1, "9999*9999*99=0", k, 1515, 10 * (k % 4), 1);
+        rule(6, "1+(1+(1+(1+value)))=4 and [1=1 and row<16]", 5, 1515, 7, 0);
+        for (int k = 0; k < 5; k++) due(0, "ruleOf", k, 4);
+        due(256, "ruleOf", 5, 4);
+        due(256, "many", 0, 7, 1515);
+        due(31, "idle");
     }
 
     private void asFarAsNeeded() {
@@ -421,6 +440,11 @@ final class TapeEdgesTest extends Script {
         holds(0, "not 1=1 and 1=2", 0, 0);
         holds(1, "2-1-1=0 and 2-(1-1)=2 and 2*-1=-2 and 1+2*3=7 and 2*2*2=8", 0, 0);
         holds(1, "1<2 and 2>1 and not 2<2 and not 2>2 and 2=2", 0, 0);
+        holds(0, "not 1<2", 0, 0);
+        holds(0, "not 2>1", 0, 0);
+        holds(0, "not 2=2", 0, 0);
+        holds(1, "not 1>2", 0, 0);
+        holds(1, "not not 1<2", 0, 0);
         on("what HOLDS is told anew when a VALUE changes");
         rule(1, "value=5", 0, 0, 7, 0);
         due(0, "shown", 0, 0);
@@ -705,6 +729,16 @@ final class TapeEdgesTest extends Script {
         due(5, "run", 0);
         cover(0, 1070107, 2010201, 4040404);
         due(3, "all", 2, 707);
+
+        on("copy: COPY; turn: COPY, TURNED");
+        due(1, "paint", 0, 1, 0);
+        due(1, "paint", 0, 2, 10001);
+        text(0, "copy a0:b0 to a2:b3;turn a0:b0 to a5:b6;");
+        due(2, "run", 0);
+        own(0, 2, 1, 2);
+        own(0, 3, 1, 2);
+        own(0, 5, 1, 1);
+        own(0, 6, 2, 2);
     }
 
     private void inThought() {
